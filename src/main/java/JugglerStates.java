@@ -589,7 +589,7 @@ public final class JugglerStates {
                 return code == ':';
             }
             if (code == 'p') {
-                return index > FIRST_THROW && isHeightAt(index - 1) && digit(index - 1) != 0;
+                return isHeightAt(index - 1) && digit(index - 1) != 0;
             }
             return isHeight(code) && throwsRead < MOST_THROWS;
         }
@@ -602,7 +602,6 @@ public final class JugglerStates {
 
         /** Takes the pattern of the pad, and tells whether the pad has one. */
         private boolean learn(Pad pad) {
-            length = 0;
             if (!isWithin(pad.length, 1, MOST_THROWS)) {
                 return false;
             }

@@ -53,7 +53,7 @@ public final class PatternTest {
             Check.due(text + ": pattern(0)", x.pattern(0), JugglerStates.BAD_TEXT);
             Check.due(text + ": pattern(9)", x.pattern(9), JugglerStates.BAD_TEXT);
         }
-        for (String text : new String[] {"21", "321", "43", "6666661", "00000001"}) {
+        for (String text : new String[] {"21", "12", "10", "321", "43", "6666661", "00000001"}) {
             JugglerStates x = new JugglerStates();
             Check.write(x, text);
             Check.due(text + ": pattern(0)", x.pattern(0), 0);
@@ -139,6 +139,10 @@ public final class PatternTest {
         due(x, 0, 6, 2, 3, 3);
         // both 4 4 and 5 3 lead from 3 to 12
         due(x, 0, 12, 2, 4, 4);
+        x.start(3, 0);
+        x.drop(0, 1);
+        due(x, 0, 3, 1, 1, 1);
+        x.start(2, 0);
         x.drop(0, 0);
         // a beat without a club is a throw with the height 0
         due(x, 0, 1, 1, 0, 0);
@@ -170,6 +174,7 @@ public final class PatternTest {
         for (int what = 0; what <= 2; what++) {
             Check.due("other clubs", x.way(1, 3, what), JugglerStates.NOT_POSSIBLE);
             Check.due("beat 7 stays empty", x.way(1, 131, what), JugglerStates.NOT_POSSIBLE);
+            Check.due("no clubs", x.way(1, 0, what), JugglerStates.NOT_POSSIBLE);
             Check.due("more clubs", x.way(0, 255, what), JugglerStates.NOT_POSSIBLE);
             Check.due("seven clubs", x.way(0, 254, what), JugglerStates.NOT_POSSIBLE);
         }
