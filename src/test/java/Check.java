@@ -1,7 +1,13 @@
+import java.io.IOException;
+import java.nio.file.Files;
+import java.nio.file.Path;
+
 /** Counts the answers that are not as due, and packs texts as the call put wants them. */
 final class Check {
+    private static final Path DOCUMENT = Path.of("../shared/DOC.md");
     private static int wrong = 0;
     private static int checked = 0;
+    private static String document;
 
     private Check() {
     }
@@ -14,12 +20,41 @@ final class Check {
         }
     }
 
+    static int checkedSoFar() {
+        return checked;
+    }
+
     static void holds(String what, boolean holds) {
         checked++;
         if (!holds) {
             wrong++;
             System.out.println("does not hold: " + what);
         }
+    }
+
+    /** Runs the test of one sentence, named by the document's own words, so that no test outlives its sentence. */
+    static void sentence(String words, Runnable test) {
+        holds("the document says: " + words, document().contains(plain(words)));
+        int wrongBefore = wrong;
+        test.run();
+        if (wrong != wrongBefore) {
+            System.out.println("  broken: " + words);
+        }
+    }
+
+    private static String document() {
+        if (document == null) {
+            try {
+                document = plain(Files.readString(DOCUMENT));
+            } catch (IOException missing) {
+                throw new IllegalStateException("no document at " + DOCUMENT, missing);
+            }
+        }
+        return document;
+    }
+
+    private static String plain(String words) {
+        return words.replace("`", "").replaceAll("\\s+", " ");
     }
 
     /** At most 8 characters, the first one highest. */

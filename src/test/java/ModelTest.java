@@ -1,7 +1,8 @@
 /** Long runs of calls, each answer held against that of the model; the same runs every time. (PatternTest has howMany.) */
 public final class ModelTest {
-    private static final int RUNS = 250;
-    private static final int CALLS = 512;
+    private static final int RUNS = 400;
+    /** An object is used for 512 calls; a text that is written and read takes at most six of them. */
+    private static final int CALLS = 506;
     private static final String[] WAYS_TO_BEGIN = {"0:", "1:", "", "0", ":"};
 
     private long seed;
@@ -42,8 +43,9 @@ public final class ModelTest {
     private void play(int run) {
         x = new JugglerStates();
         model = new Model();
-        for (int call = 0; call < CALLS; call++) {
-            one("run " + run + ", call " + call + ": ");
+        int before = Check.checkedSoFar();
+        while (Check.checkedSoFar() - before < CALLS) {
+            one("run " + run + ", call " + (Check.checkedSoFar() - before) + ": ");
         }
     }
 
