@@ -165,6 +165,11 @@ public final class ChangeEdgesTest {
         Check.program(x, "1:7");
         Check.due("place of 0 stays", x.of(0, 3), 2);
         Check.due("place of 1", x.of(1, 3), 0);
+        Check.program(x, "0:1p1p1p1p1p1p1p1p");
+        Check.program(x, "0:45");
+        Check.due("nothing is left of the program before", x.of(0, 2), 2);
+        Check.due("the first throw is no pass", x.thrown(0, 0, 1), 0);
+        Check.due("the second one neither", x.thrown(0, 1, 1), 0);
     }
 
     private static void readRefuses() {

@@ -1,6 +1,9 @@
+import java.util.Arrays;
+
 /** The edges that "Patterns", "Ways" and the promises 13 to 16 name: a test for each sentence. */
 public final class PatternEdgesTest {
     private static final int[] FAR = {Integer.MIN_VALUE, Integer.MIN_VALUE + 1, -256, 256, 65536, Integer.MAX_VALUE};
+    private static final int NO_THROW = -1;
     private static final String[] NO_PATTERNS = {"", "8", "38", "33p", "0:3", "333333333", "3/3", "p", "3!", ":"};
     private static final String[] NOT_SOUND = {"21", "321", "10", "43", "6666661", "10000000", "70000000"};
 
@@ -452,6 +455,69 @@ public final class PatternEdgesTest {
         Check.due(name + ": the last throw", thrown, last);
     }
 
+    /** Behind a throw from a state; NO_THROW if it would drop a club, or there is none for it. */
+    private static int behind(int state, int height) {
+        boolean club = (state & 1) == 1;
+        if (club != height > 0 || club && (state >> height & 1) == 1) {
+            return NO_THROW;
+        }
+        return (club ? state | 1 << height : state) >> 1;
+    }
+
+    /** From every state to one: how many throws are left. A way through all states would have 255. */
+    private static int[] throwsLeft(int to) {
+        int[] left = new int[256];
+        Arrays.fill(left, NO_THROW);
+        left[to] = 0;
+        for (int round = 1; round <= 255; round++) {
+            for (int state = 0; state < 256; state++) {
+                for (int height = 0; height <= 7 && left[state] == NO_THROW; height++) {
+                    int next = behind(state, height);
+                    if (next != NO_THROW && left[next] == round - 1) {
+                        left[state] = round;
+                    }
+                }
+            }
+        }
+        return left;
+    }
+
+    private static void waysByTheWords(int what) {
+        JugglerStates[] from = new JugglerStates[256];
+        for (int state = 0; state < 256; state++) {
+            from[state] = Scenes.withStates(state, 0);
+        }
+        for (int to = 0; to < 256; to++) {
+            int[] left = throwsLeft(to);
+            for (int state = 0; state < 256; state++) {
+                String name = "from " + state + ": way(0, " + to + ", " + what + ")";
+                Check.due(name, from[state].way(0, to, what), dueOfWay(state, left, what));
+            }
+        }
+    }
+
+    private static int dueOfWay(int from, int[] left, int what) {
+        if (left[from] == NO_THROW) {
+            return JugglerStates.NOT_POSSIBLE;
+        }
+        if (what == 0) {
+            return left[from];
+        }
+        int first = JugglerStates.NONE;
+        int last = JugglerStates.NONE;
+        int state = from;
+        while (left[state] > 0) {
+            int height = 0;
+            while (behind(state, height) == NO_THROW || left[behind(state, height)] != left[state] - 1) {
+                height++;
+            }
+            first = first == JugglerStates.NONE ? height : first;
+            last = height;
+            state = behind(state, height);
+        }
+        return what == 1 ? first : last;
+    }
+
     private static void emptyBeatsCount() {
         goes(128, 1, 7, 0, 0);
         goes(2, 1, 1, 0, 0);
@@ -486,6 +552,7 @@ public final class PatternEdgesTest {
         // the program has nothing to do with the ways
         Check.program(x, "0:7p");
         Check.due("a pass", x.way(0, 19, 1), 5);
+        waysByTheWords(0);
         goes(7, 14, 3, 4, 4);
         goes(1, 1, 0, JugglerStates.NONE, JugglerStates.NONE);
         goes(127, 127, 0, JugglerStates.NONE, JugglerStates.NONE);
@@ -506,6 +573,8 @@ public final class PatternEdgesTest {
     }
 
     private static void firstWay() {
+        waysByTheWords(1);
+        waysByTheWords(2);
         // 3 3 and 4 2
         goes(3, 6, 2, 3, 3);
         // 4 4 and 5 3

@@ -51,13 +51,15 @@ final class Scenes {
         }
     }
 
-    /** Clubs that slipped, clashed and lie on the floor, places within programs, six changes, and two full slots. */
+    /** Clubs that slipped, clashed and lie on the floor, places within programs, a full history, and two full slots. */
     static JugglerStates busy(String pad) {
         JugglerStates x = juggling("5p20", "3p41p", 4, 3);
+        x.pass(1);
         Check.holds("save(1)", x.save(1) == 7);
-        x.pass(2);
+        x.pass(1);
         x.pick(1, 7);
-        x.pass(2);
+        x.pass(1);
+        x.pass(1);
         Check.holds("save(0)", x.save(0) == 7);
         x.pass(3);
         x.pick(0, 5);

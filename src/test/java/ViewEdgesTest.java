@@ -55,6 +55,7 @@ public final class ViewEdgesTest {
             Check.due("clubs to come", x.of(0, 1) + x.of(1, 1), 0);
             Check.due("slips of 0", x.of(0, 4), clubs);
             Check.due("slips of 1", x.of(1, 4), 8 - clubs);
+            Check.due("clashes", x.of(0, 5) + x.of(1, 5), 0);
         }
         JugglerStates x = Scenes.juggling("1p", "11111111", 1, 2);
         Check.due("both clubs clash with the second one of 1", x.pass(1), 2);
@@ -87,10 +88,10 @@ public final class ViewEdgesTest {
     }
 
     private static void thrownTells() {
-        JugglerStates x = Scenes.juggling("70", "1p2p3p4p5p6p7p0", 0, 0);
+        JugglerStates x = Scenes.juggling("70", "01p23p45p67p", 0, 0);
         for (int place = 0; place < 8; place++) {
-            Check.due("height " + place, x.thrown(1, place, 0), (place + 1) % 8);
-            Check.due("pass " + place, x.thrown(1, place, 1), place == 7 ? 0 : 1);
+            Check.due("height " + place, x.thrown(1, place, 0), place);
+            Check.due("pass " + place, x.thrown(1, place, 1), place % 2);
         }
         Check.due("the first height", x.thrown(0, 0, 0), 7);
         Check.due("the last height", x.thrown(0, 1, 0), 0);
