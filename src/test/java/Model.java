@@ -388,6 +388,23 @@ final class Model {
         return what == 1 ? made.get(0) : made.get(made.size() - 1);
     }
 
+    /** Looks at every row of heights of the length. */
+    int howMany(int length, int clubs) {
+        if (length < 1 || length > 5 || clubs < 0 || clubs > 7) {
+            return BAD_VALUE;
+        }
+        Model looked = new Model();
+        int found = 0;
+        int rows = 1 << 3 * length;
+        for (int row = 0; row < rows; row++) {
+            looked.pad = Integer.toOctalString(rows + row).substring(1);
+            if (looked.sound() && looked.pad.chars().map(c -> c - '0').sum() == length * clubs) {
+                found++;
+            }
+        }
+        return found;
+    }
+
     int put(long characters) {
         StringBuilder text = new StringBuilder();
         for (int shift = 56; shift >= 0; shift -= 8) {
